@@ -373,7 +373,7 @@ public final class LineGuild {
         if (!such || !isWithin(what, 0, 2)) {
             return NONE;
         }
-        int thickest = Integer.MAX_VALUE;
+        int thickest = STORIES * MOST_TURNS + 1;
         int second = NOT_SUCH;
         int third = NOT_SUCH;
         for (int b = 1; b <= STORIES; b++) {
@@ -800,7 +800,7 @@ public final class LineGuild {
             }
         }
 
-        /** The E of the first clause of a kind whose C holds, by its bounds; 0 if there is none; of x 1 if one holds. */
+        /** The E of the first clause of a kind whose C holds, within its bounds, 0 if there is none; of x 1. */
         private int worthOf(int kind, int[] values) {
             for (int i = 0; i < clauses && i < CLAUSES; i++) {
                 if (kinds[i] == kind && reckon(middles[i], stops[i], values) != 0) {
@@ -1040,7 +1040,7 @@ public final class LineGuild {
         }
     }
 
-    /** The ends that were told, and what can be chosen among them. Their stock is of the hall, as it is kept and undone. */
+    /** The ends that were told, and what can be chosen of them. Their stock is the hall's, as it is kept and undone. */
     private static final class Ends {
         private int told = 0;
         private final int[] threads = new int[ENDS];
@@ -1667,7 +1667,7 @@ public final class LineGuild {
             return many;
         }
 
-        /** Of those that wait and want it on an evening the one whose time ends first: to serve him never costs another. */
+        /** Of those that want it on an evening the one whose time ends first: to serve him never costs another. */
         private int mostPressed(int waiting, int evening) {
             int pressed = NONE;
             for (int i = 0; i < wanters; i++) {

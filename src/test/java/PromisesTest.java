@@ -356,6 +356,12 @@ public final class PromisesTest {
         holds(g, "1%0<1|1=1", false);
         holds(g, "!(1=2&1/0=1)", true);
         holds(g, "1=[1/0]|1=1", false);
+        holds(g, "2>1|1/0=1", true);
+        holds(g, "1<2|1/0=1", true);
+        holds(g, "!2>1|1=2", false);
+        holds(g, "!1<2|1=2", false);
+        holds(g, "2<1&1/0=1|1=1", true);
+        holds(g, "1>2&1/0=1|1=1", true);
         due("4: the first that holds", n(g, "p9(1=1);n3(k=1);n4(k=2);n5(1=1)"), 4);
         due("4: a refused C is passed over", n(g, "n3(1/0=1);n4(1=1)"), 4);
         due("4: a refused E is 0", n(g, "n1/0(1=1);n4(1=1)"), 0);
@@ -847,6 +853,11 @@ public final class PromisesTest {
         row(g, 4, 2, 0, 1);
         row(g, 5, 2);
         row(g, 5, 0, 4);
+        LineGuild star = with("*", "*A*", "2*");
+        row(star, 0, 1);
+        row(star, 0, 2, 0);
+        row(star, 1, 1);
+        row(star, 2, 1, 0);
         due("20: no such place", g.fitting(0, 0, -1), -4);
         due("20: no such place", g.fitting(0, 0, 99), -4);
         due("20: no such place", g.fitting(0, 0, LEAST), -4);
@@ -873,6 +884,10 @@ public final class PromisesTest {
         due("21: none", g.wouldDo(0, 2, 1), -2);
         due("21: none", g.wouldDo(0, 2, 2), -2);
         due("21: nothing open", g.wouldDo(1, 1, 2), -2);
+        LineGuild h = with("****");
+        h.end(0, 7, 1, 0, 1);
+        due("21: * by *", h.wouldDo(0, 0, 0), 3);
+        due("21: * by *", h.wouldDo(0, 0, 2), 3);
         int[][] wrong = {{-1, 0, 0}, {6, 0, 0}, {2, 0, 0}, {0, -1, 0}, {0, 10, 0}, {0, 3, 0}, {0, 0, -1}, {0, 0, 3}};
         for (int[] w : wrong) {
             due("21: no such ones", g.wouldDo(w[0], w[1], w[2]), -1);
@@ -906,6 +921,10 @@ public final class PromisesTest {
             due("22: no such ones", g.series(w[0], w[1]), -1);
         }
         due("22: not told", h.series(32 + 1, 20), -1);
+        LineGuild all = with("9*", "*.");
+        due("22: all are open", all.series(3, 20), 10);
+        due("22: all are open at the end", all.series(3, 21), 10);
+        due("22: the least row", all.series(3, 0), 0);
     }
 
     /** The row that is best, by trying all. */
@@ -975,6 +994,10 @@ public final class PromisesTest {
         due("24: all", winter(g, 300, 3, 1, 1, 1, 1), 2 + 16 + 512);
         due("24: all", winter(g, 30, 3, 2, 1, 1, 1), 30);
         due("24: none", winter(g, 0, 3, 1, 10, 10, 10), 0);
+        LineGuild alone = new LineGuild();
+        alone.end(7, 1, 8, 0, 3);
+        due("24: of one end", winter(alone, 3, 1, 1, 5), 128);
+        due("24: of one end", winter(alone, 2, 1, 0, 5), 0);
         due("24: nothing wanted", winter(g, 300, 3, 2, 0, 0, 0), 0);
         due("24: a byte above 10", winter(g, 30, 3, 0, 1, 1, 11), -2);
         due("24: empty then", g.count(8), 0);
@@ -1061,6 +1084,8 @@ public final class PromisesTest {
         due("26: none is left", g.forged(all, 1023, -1, 1), -2);
         due("26: smelt by none of them", g.forged(all, 256, 8, 0), 0);
         due("26: two", g.forged(32 + 1, 0, -1, 1), 0);
+        due("26: one alone", g.forged(1, 0, -1, 0), 1);
+        due("26: one alone", g.forged(1, 0, -1, 1), -2);
         due("26: two", g.forged(32 + 4, 0, -1, 1), 1);
         int[][] wrong = {{0, 0, -1, 0}, {16, 0, -1, 0}, {-1, 0, -1, 0}, {1024 + 1, 0, -1, 0}, {1, -1, -1, 0},
             {1, 1024, -1, 0}, {1, 1, 1, 0}, {1, 1023, 10, 0}, {1, 1, -2, 0}, {1, 1, -1, 2}, {1, 1, -1, -1},
@@ -1133,6 +1158,9 @@ public final class PromisesTest {
         for (int[] w : wrong) {
             due("28: no such ones", g.book(w[0], w[1], w[2]), -1);
         }
+        LineGuild h = with(".", ".", ".", "9.");
+        due("28: no volume without a story", h.book(14, 3, 1), 2);
+        due("28: no volume without a story", h.book(14, 3, 2), 3);
         due("28: not told", with("a").book(3, 1, 0), -1);
     }
 

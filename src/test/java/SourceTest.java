@@ -86,7 +86,7 @@ public final class SourceTest {
     private static void words(String code) {
         String[] barred = {"throw", "throws", "try", "catch", "finally", "synchronized", "assert", "instanceof", "float",
             "package", "Object", "equals", "hashCode", "toString", "Thread", "volatile", "Exception", "strictfp",
-            "protected", "var", "yield", "native", "transient", "super"};
+            "protected", "var", "yield", "native", "transient", "super", "MAX_VALUE", "MIN_VALUE"};
         for (String word : barred) {
             due("barred: " + word, Pattern.compile("\\b" + word + "\\b").matcher(code).find() ? 1 : 0, 0);
         }
