@@ -113,6 +113,25 @@ final class Model {
         return b.toString();
     }
 
+    /** Whether fault 6 is told alike if only the turns of one round are counted till it ends: the document leaves it open. */
+    boolean isPlain(String told) {
+        int[] answers = new int[2];
+        for (int i = 0; i < 2; i++) {
+            text = told;
+            at = 0;
+            countsAhead = i == 0;
+            try {
+                answers[i] = turns(0, 0).length();
+            } catch (Fault f) {
+                answers[i] = f.answer;
+            }
+        }
+        countsAhead = true;
+        return answers[0] == answers[1];
+    }
+
+    private boolean countsAhead = true;
+
     /** Writes out the turns; so many stand ahead of them already. */
     private String turns(int ahead, int depth) {
         String out = "";
@@ -129,7 +148,7 @@ final class Model {
                     throw new Fault(5, at);
                 }
                 at++;
-                once = turns(ahead + out.length(), depth + 1);
+                once = turns(countsAhead ? ahead + out.length() : 0, depth + 1);
                 if (sign() != ')') {
                     throw new Fault(1, at);
                 }
@@ -1041,6 +1060,20 @@ final class Model {
         return best;
     }
 
+    /** How many were open behind each turn of a told story if a told end was put in behind one of them. */
+    String heard(int k, int e, int behind) {
+        TreeSet<Integer> open = new TreeSet<>();
+        StringBuilder all = new StringBuilder();
+        for (int i = 1; i <= stories[k].length(); i++) {
+            turn(stories[k].charAt(i - 1), open);
+            if (i == behind) {
+                open.removeAll(ends[e].threads);
+            }
+            all.append((char) open.size());
+        }
+        return all.toString();
+    }
+
     int yawns(int k, int n, int what) {
         if (!told(k) || n < 1 || n > 20 || n > tape.size() || what < 0 || what > 1) {
             return -1;
@@ -1054,16 +1087,7 @@ final class Model {
         TreeSet<Integer> which = new TreeSet<>();
         for (int e = 0; e < 10; e++) {
             for (int i = 1; isEnd(e) && i <= s.length(); i++) {
-                TreeSet<Integer> open = new TreeSet<>();
-                String heard = "";
-                for (int j = 1; j <= s.length(); j++) {
-                    turn(s.charAt(j - 1), open);
-                    if (i == j) {
-                        open.removeAll(ends[e].threads);
-                    }
-                    heard += (char) open.size();
-                }
-                if (heard.endsWith(bytes)) {
+                if (heard(k, e, i).endsWith(bytes)) {
                     ways++;
                     which.add(e);
                 }

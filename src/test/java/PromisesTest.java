@@ -189,7 +189,6 @@ public final class PromisesTest {
         fault(g, "9(2(5a))", -6000);
         fault(g, "9(9(9a))", -6002);
         fault(g, "(8(9a)b)", -6006);
-        fault(g, "8(9a)(bA)", -6006);
         fault(g, "9(9a", -1004);
         fault(g, "9(9a)k", -6000);
         due("3: none was told", g.count(3), 0);
@@ -482,7 +481,7 @@ public final class PromisesTest {
         due("8: two ends", g.evenings(1), 12);
         due("8: one is forged", g.tellerIs(3, 3), 2);
         due("8: two draws", g.count(9), (39022 * 25173L + 13849) % 65536);
-        // The draws at seed 1 are 2 and 5: g of 2 doesn't forge the first, g of 3 does; g of 5 doesn't forge the second.
+        // The draws at seed 1 are 2 and 7: g of 2 doesn't forge the first, g of 3 does; g of 6 doesn't forge the second.
         for (int tenths = 2; tenths <= 6; tenths++) {
             LineGuild h = with("abcd");
             h.end(1, 6, 7, 1, 1);
