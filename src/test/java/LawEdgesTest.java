@@ -14,6 +14,7 @@ public final class LawEdgesTest {
         seventeenthClause();
         seventhOpen();
         bytesOfALaw();
+        firstBytesAlone();
         firstFaultFromTheLeft();
         inPlaceOfTheOneBefore();
         boundsOfAnswers();
@@ -179,6 +180,27 @@ public final class LawEdgesTest {
         due("4: many parts", told(ands), 1);
         String shortest = "x(k=k);".repeat(15) + "x(k=k)";
         due("4: many clauses", told(shortest), 16);
+    }
+
+    /** What stands behind the first n bytes would make another law of them. */
+    private static void firstBytesAlone() {
+        String whole = "p12(1=13|!(c=7));p[4](1=1)";
+        int clause = whole.indexOf(';');
+        for (int n = 1; n <= whole.length(); n++) {
+            LineGuild g = new LineGuild();
+            g.end(9, 1, 7, 3, 1);
+            Checks.put(g, whole);
+            boolean isWhole = n == clause || n == whole.length();
+            due("4: the first " + n, g.law(n), !isWhole ? -1000 - n : n == clause ? 1 : 2);
+            due("4: empty then", g.count(8), 0);
+            due("4: clauses", g.count(7), !isWhole ? 0 : n == clause ? 1 : 2);
+            due("4: p", g.endIs(9, 4), n == whole.length() ? 4 : 0);
+        }
+        LineGuild g = new LineGuild();
+        Checks.put(g, "x(1=12345678)");
+        due("4: five digits of eight", g.law(9), -1009);
+        Checks.put(g, "x(1=1)x(1=1)");
+        due("4: one of two with no ; between", g.law(6), 1);
     }
 
     private static void firstFaultFromTheLeft() {

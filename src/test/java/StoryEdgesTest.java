@@ -6,6 +6,7 @@ public final class StoryEdgesTest {
 
     public static void main(String[] args) {
         tapeIsReadFromItsFirstByte();
+        firstBytesAlone();
         tapeHolds260();
         everyByteAtEachPlace();
         whatATurnDoes();
@@ -62,6 +63,24 @@ public final class StoryEdgesTest {
         due("2: bytes of 128 and more", g.feed(0x80ff0900, 0, 0, 0, 0), 20);
         g.end(0, 1, 1, 1, 1);
         due("24: 128 is above 10", g.winter(5, 1, 0), -2);
+    }
+
+    /** What stands behind the first n bytes would make another story of them. */
+    private static void firstBytesAlone() {
+        String[] tapes = {"(a)", "2a", "ab)", "((a))", "a2b", "(a)(", "abk", "a(", "2(ab)", "2(a)"};
+        int[] many = {2, 1, 2, 4, 2, 3, 2, 1, 4, 3};
+        int[] want = {-1002, -1001, 2, -1004, -1002, 1, 2, 1, -1004, -1003};
+        for (int i = 0; i < tapes.length; i++) {
+            LineGuild g = new LineGuild();
+            Checks.put(g, tapes[i]);
+            due("3: the first " + many[i] + " of " + tapes[i], g.story(0, many[i]), want[i]);
+            due("3: empty then", g.count(8), 0);
+        }
+        LineGuild g = new LineGuild();
+        Checks.put(g, "(".repeat(2) + ".".repeat(70) + "))(a)(b)))");
+        due("3: 79 of 82", g.story(0, 79), -1079);
+        Checks.put(g, "(".repeat(2) + ".".repeat(70) + "))(a)(b)))");
+        due("3: 80 of 82", g.story(0, 80), 72);
     }
 
     private static void tapeHolds260() {
