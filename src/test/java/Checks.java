@@ -22,6 +22,11 @@ final class Checks {
         due(what, got ? 1 : 0, want ? 1 : 0);
     }
 
+    void due(String what, String got, String want) {
+        boolean isDue = got.equals(want);
+        due(isDue ? what : what + " (" + got + ", due is " + want + ")", isDue, true);
+    }
+
     int wrongOnes() {
         return wrong;
     }

@@ -83,6 +83,10 @@ public final class SourceTest {
             due("rule 2: static " + c, Modifier.isStatic(c.getModifiers()) ? 1 : 0, 1);
             boolean isSeen = Modifier.isPublic(c.getModifiers()) || Modifier.isProtected(c.getModifiers());
             due("rule 1: private or package-visible " + c, isSeen ? 1 : 0, 0);
+            for (Method m : c.getDeclaredMethods()) {
+                due("rule 1: private " + m, Modifier.isPrivate(m.getModifiers()) ? 1 : 0, 1);
+                due("rule 1: name of " + m, names.contains(m.getName()) ? 1 : 0, 0);
+            }
         }
         due("rule 1: final", Modifier.isFinal(LineGuild.class.getModifiers()) ? 1 : 0, 1);
         due("rule 11: some twelve classes", LineGuild.class.getDeclaredClasses().length < 13 ? 1 : 0, 1);
